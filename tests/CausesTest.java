@@ -8,6 +8,7 @@ public final class CausesTest {
         wrongInputs();
         joinedAndChance();
         causes();
+        lowGround();
         fortyHomes();
         againstAllDraws();
         DUE.end("CausesTest");
@@ -108,6 +109,8 @@ public final class CausesTest {
         DUE.is("rivals below p", x.rivals(0, 0, 239), -4);
         DUE.is("the same homes are no rival", x.rivals(0, 0, 240), 0);
         DUE.is("batches are", x.rivals(0, 0, 9999), 2);
+        DUE.is("just p is not below", x.rivals(0, 0, x.chance(0, 20, 0)), 0);
+        DUE.is("just below p", x.rivals(0, 0, x.chance(0, 20, 0) + 1), 2);
         for (int i = 0; i < 4; i++) {
             x.crew(i, 0, 9);
         }
@@ -115,6 +118,18 @@ public final class CausesTest {
         DUE.is("rivals with like homes among themselves", x.rivals(0, 0, 240), 2);
         x.rule(1, 0);
         DUE.is("rivals without LOW ground", x.rivals(0, 0, 240), 1);
+    }
+
+    private static void lowGround() {
+        SnagBook x = new SnagBook();
+        for (int i = 0; i < 4; i++) {
+            x.home(i, i < 2 ? 99 : 100, i % 2);
+        }
+        x.kind(0, 1, 0);
+        x.fault(0, 0, 1, 0);
+        x.fault(12, 0, 1, 0);
+        DUE.is("LOW ground", x.cause(0, 0, 9999), 30);
+        DUE.is("its CHANCE", x.chance(0, 30, 0), 1667);
     }
 
     private static void fortyHomes() {
@@ -130,6 +145,8 @@ public final class CausesTest {
         DUE.is("of none of it", x.chance(0, 1, 0), 10000);
         DUE.is("4 of 4: 4845 of 91390", x.chance(0, 20, 0), 531);
         DUE.is("cause", x.cause(0, 0, 2), 0);
+        DUE.is("nothing is below 1", x.cause(0, 0, 1), -4);
+        DUE.is("nothing is below 1", x.rivals(0, 0, 1), -4);
     }
 
     private static void againstAllDraws() {

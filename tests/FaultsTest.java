@@ -202,6 +202,7 @@ public final class FaultsTest {
         DUE.is("promise 29", x.promise(0, 5), -2);
         DUE.is("said", x.said(0, 5), -2);
         DUE.is("voids", x.voids(0), -2);
+        x.days(1);
         x.key(0, 100);
         DUE.is("take", x.take(0), -3);
         DUE.is("MOVED", x.ofFault(0, 10), 28);

@@ -102,6 +102,8 @@ public final class GaugesTest {
         DUE.is("DRY ends with day 359", says(170, 0, 10, 50, 179, 20), 0);
         DUE.is("WET comes with day 360", says(170, 0, 10, 50, 180, 20), 2);
         DUE.is("0 in DRY is no sign", says(0, 0, 10, 50, 10, 30, 160, 30), 0);
+        DUE.is("0 in WET is not up", says(0, 50, 10, 50, 180, 20), 0);
+        DUE.is("0 in WET is not down", says(0, 0, 10, 10, 10, 10, 160, 30), 0);
     }
 
     private static void upToADay() {

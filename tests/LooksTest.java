@@ -160,6 +160,16 @@ public final class LooksTest {
         DUE.is("41 SAID", x.bounds(0, 49, 0), -5);
         DUE.is("41 SAID", x.bounds(0, 49, 1), -5);
         DUE.is("41 SAID, wrong", x.bounds(0, 50, 1), -1);
+        for (int good = 0; good < 2; good++) {
+            x = book();
+            for (int i = 0; i < 4; i++) {
+                x.fault(0, 0, 1, 0);
+                x.said(i, 0);
+            }
+            x.look(0, good);
+            DUE.is("just 25 of 100", x.bounds(0, 25, good), good == 0 ? 1 : 3);
+            DUE.is("less than 26 of 100", x.bounds(0, 26, good), 2);
+        }
     }
 
     private static void boundsByDraws() {

@@ -290,6 +290,13 @@ public final class TextsTest {
         DUE.is("f=1", line(x, 1, "f=1"), 0);
         DUE.is("g=2", line(x, 1, "g=2"), 0);
         DUE.is("g=0 of no CRACK", line(x, 0, "g=0"), 0);
+        x.key(1, 0);
+        x.days(359);
+        x.fault(12, 0, 1, 0);
+        x.days(1);
+        x.fault(12, 0, 1, 0);
+        DUE.is("y=0 of a later key", line(x, 3, "y=0"), 0);
+        DUE.is("y=1 of a later key", line(x, 4, "y=1"), 0);
         DUE.is("y=0 & o=1", line(x, 0, "y=0&o=1"), 1);
     }
 

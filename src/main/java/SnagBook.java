@@ -1331,7 +1331,7 @@ public final class SnagBook {
         }
 
         int at(int i) {
-            return isIn(i, bytes.length) ? bytes[i] : NONE;
+            return i >= 0 && i < bytes.length ? bytes[i] : NONE;
         }
     }
 
