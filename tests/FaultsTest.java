@@ -13,6 +13,7 @@ public final class FaultsTest {
         thirtyStates();
         states();
         newOrOld();
+        newAtTheTelling();
         listByDays();
         prices();
         sources();
@@ -266,6 +267,34 @@ public final class FaultsTest {
         DUE.is("NEW as on its day", x.ofFault(behindVoid, 7), 1);
         x.voids(0);
         DUE.is("OLD stays OLD when the listed one is VOID later", x.ofFault(same, 7), 0);
+    }
+
+    private static void newAtTheTelling() {
+        SnagBook x = book();
+        x.fault(0, 0, 1, 0);
+        x.key(0, 0);
+        x.days(1);
+        x.fault(1, 0, 1, 10);
+        int byList = x.fault(0, 0, 1, 10);
+        int byOpen = x.fault(1, 0, 1, 10);
+        x.voids(0);
+        x.said(1, 3);
+        x.look(1, 1);
+        DUE.is("OLD, though the listed one became VOID that day", x.ofFault(byList, 7), 0);
+        DUE.is("OLD, though the earlier one was closed that day", x.ofFault(byOpen, 7), 0);
+        x.voids(byList);
+        x.voids(byOpen);
+        int behindVoid = x.fault(0, 0, 1, 10);
+        int behindClosed = x.fault(1, 0, 1, 10);
+        DUE.is("NEW, all were VOID ahead of it that day", x.ofFault(behindVoid, 7), 1);
+        DUE.is("NEW, the open one was closed ahead of it that day", x.ofFault(behindClosed, 7), 1);
+        x.fault(0, 0, 1, 10);
+        DUE.is("NEW, a later one is none of its own", x.ofFault(behindVoid, 7), 1);
+        Due.text(x, 0, 0, "n=1>b;n=0>w;");
+        DUE.is("judged as OLD", x.judge(byList, 0), 1);
+        DUE.is("judged as NEW", x.judge(behindVoid, 0), 0);
+        x.days(1);
+        DUE.is("OLD a day later", x.ofFault(byOpen, 7), 0);
     }
 
     private static void listByDays() {

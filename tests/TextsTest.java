@@ -9,6 +9,7 @@ public final class TextsTest {
         freeingFaults();
         forces();
         judging();
+        aheadOfTheKey();
         names();
         signs();
         payers();
@@ -193,7 +194,7 @@ public final class TextsTest {
     private static void judging() {
         SnagBook x = keyed();
         x.fault(0, 0, 2, 0);
-        DUE.is("judge without a key", x.judge(0, 0), -1);
+        judged(x, 0, 0, 0, 20, -1);
         x.days(1);
         x.key(0, 0);
         x.fault(0, 0, 3, 0);
@@ -217,6 +218,29 @@ public final class TextsTest {
         judged(x, 1, 0, 30, 0, 0);
         x.voids(1);
         judged(x, 1, 0, 30, 0, 0);
+    }
+
+    private static void aheadOfTheKey() {
+        SnagBook x = keyed();
+        Due.text(x, 0, 0, ">w7;");
+        x.fault(0, 0, 2, 0);
+        x.fault(12, 1, 9, 10);
+        judged(x, 0, 0, 0, 20, -1);
+        DUE.is("judge(0, 4)", x.judge(0, 4), -1);
+        DUE.is("judge(0, -1)", x.judge(0, -1), -1);
+        DUE.is("judge(2, 0)", x.judge(2, 0), -1);
+        x.days(400);
+        judged(x, 1, 0, 0, 90, -1);
+        x.fault(1, 0, 4, 10);
+        x.key(0, 0);
+        x.fault(1, 0, 5, 10);
+        judged(x, 2, 0, 0, 40, -1);
+        judged(x, 3, 1, 7, 43, 0);
+        judged(x, 1, 0, 0, 90, -1);
+        x.days(1);
+        x.fault(1, 0, 1, 10);
+        judged(x, 2, 0, 0, 40, -1);
+        judged(x, 4, 1, 7, 3, 0);
     }
 
     private static void payers() {

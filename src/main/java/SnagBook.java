@@ -183,8 +183,9 @@ public final class SnagBook {
         if (faultCount >= MOST_FAULTS) {
             return FULL;
         }
-        faults[faultCount] = new Fault(faultCount, h, where % ROOMS, kind, k, severity, eye);
-        faults[faultCount].tell(today);
+        Fault f = new Fault(faultCount, h, where % ROOMS, kind, k, severity, eye);
+        f.tell(today, isToldBefore(f));
+        faults[faultCount] = f;
         faultCount++;
         return faultCount - 1;
     }
@@ -273,7 +274,7 @@ public final class SnagBook {
             case 4: return f.day;
             case 5: return f.eye;
             case 6: return f.listed ? 1 : 0;
-            case 7: return isNew(f) ? 1 : 0;
+            case 7: return f.isNew ? 1 : 0;
             case 8: return f.price();
             case 9: return f.promiseOn(today);
             case 10: return f.moved;
@@ -500,7 +501,7 @@ public final class SnagBook {
 
     public int judge(int fault, int what) {
         Fault f = faultAt(fault);
-        if (f == null || !isIn(what, 4) || !f.home.hasKey()) {
+        if (f == null || !isIn(what, 4)) {
             return NONE;
         }
         decide(f);
@@ -537,7 +538,7 @@ public final class SnagBook {
         if (f == null) {
             return NONE;
         }
-        if (!f.isWaiting() || f.history.isFull() || !f.home.hasKey()) {
+        if (!f.isWaiting() || f.history.isFull()) {
             return STATE;
         }
         decide(f);
@@ -763,19 +764,16 @@ public final class SnagBook {
         return sum;
     }
 
-    /** NEW is asked as known on the day of telling: what came on that day counts, what came behind it doesn't. */
-    private boolean isNew(Fault f) {
-        if (f.listed) {
-            return false;
-        }
-        for (int i = 0; i < f.number; i++) {
+    /** Asked while it is told, so what the earlier ones are now is what they are by then. */
+    private boolean isToldBefore(Fault f) {
+        for (int i = 0; i < faultCount; i++) {
             Fault g = faults[i];
-            int then = g.isSameThing(f) ? g.history.onDay(f.day) : VOID;
-            if (then != VOID && (g.listed || then != CLOSED)) {
-                return false;
+            int state = g.isSameThing(f) ? g.history.now() : VOID;
+            if (state != VOID && (g.listed || state != CLOSED)) {
+                return true;
             }
         }
-        return true;
+        return false;
     }
 
     private Fault leakAbove(Fault f, int day) {
@@ -895,7 +893,7 @@ public final class SnagBook {
     }
 
     private void decide(Fault f) {
-        if (f.day < f.home.keyDay) {
+        if (f.aheadOfKey) {
             verdict.builderPaysAll(f.price());
             return;
         }
@@ -910,7 +908,7 @@ public final class SnagBook {
         facts[1] = f.kindNumber;
         facts[2] = f.kind.trade;
         facts[3] = f.severity;
-        facts[4] = isNew(f) ? 1 : 0;
+        facts[4] = f.isNew ? 1 : 0;
         facts[5] = f.home.salesBy(f.day);
         facts[6] = f.gaugeSays(today);
         facts[7] = charged == NOT ? 0 : 1;
@@ -1230,7 +1228,9 @@ public final class SnagBook {
         /** Only a crack has one. */
         final Gauge gauge;
         int day;
+        boolean aheadOfKey;
         boolean listed;
+        boolean isNew;
         int promiseDay = NONE;
         private int promiseIs = NO_PROMISE;
         private int brokenBefore;
@@ -1247,9 +1247,12 @@ public final class SnagBook {
             this.gauge = kind.has(CRACK) ? new Gauge() : null;
         }
 
-        void tell(int today) {
+        /** What is kept here is a matter of the telling: what comes behind it on the same day changes none of it. */
+        void tell(int today, boolean toldBefore) {
             day = today;
-            listed = !home.hasKey() || today <= home.keyDay;
+            aheadOfKey = !home.hasKey();
+            listed = aheadOfKey || today <= home.keyDay;
+            isNew = !listed && !toldBefore;
             history.add(OPEN, today, NONE);
         }
 
