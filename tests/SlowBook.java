@@ -31,7 +31,7 @@ final class SlowBook {
 
     static final class Fault {
         int number, home, room, kind, severity, eye, day;
-        boolean hadKey, listed, old;
+        boolean listed, old;
         final List<Step> steps = new ArrayList<>();
         final List<Reading> readings = new ArrayList<>();
 
@@ -85,7 +85,6 @@ final class SlowBook {
         f.eye = eye;
         f.day = today;
         int key = homes.get(f.home).keyDay;
-        f.hadKey = key >= 0;
         f.listed = key < 0 || today <= key;
         f.old = f.listed || faults.stream().anyMatch(g -> g.home == f.home && g.room == f.room && g.kind == kind
             && g.now() != 4 && (g.listed || g.now() != 3));
@@ -311,7 +310,8 @@ final class SlowBook {
 
     int[] judge(Fault f) {
         int price = price(f);
-        if (!f.hadKey) {
+        int key = homes.get(f.home).keyDay;
+        if (key < 0 || f.day < key) {
             return new int[] {0, 0, price, -1};
         }
         int force = inForce(0, f.home, today);

@@ -10,6 +10,7 @@ public final class TextsTest {
         forces();
         judging();
         aheadOfTheKey();
+        onTheKeyDay();
         names();
         signs();
         payers();
@@ -229,18 +230,41 @@ public final class TextsTest {
         DUE.is("judge(0, 4)", x.judge(0, 4), -1);
         DUE.is("judge(0, -1)", x.judge(0, -1), -1);
         DUE.is("judge(2, 0)", x.judge(2, 0), -1);
-        x.days(400);
+        x.days(360);
         judged(x, 1, 0, 0, 90, -1);
         x.fault(1, 0, 4, 10);
+        judged(x, 2, 0, 0, 40, -1);
         x.key(0, 0);
         x.fault(1, 0, 5, 10);
-        judged(x, 2, 0, 0, 40, -1);
+        judged(x, 2, 1, 7, 33, 0);
         judged(x, 3, 1, 7, 43, 0);
+        judged(x, 0, 0, 0, 20, -1);
         judged(x, 1, 0, 0, 90, -1);
         x.days(1);
         x.fault(1, 0, 1, 10);
-        judged(x, 2, 0, 0, 40, -1);
+        judged(x, 2, 1, 7, 33, 0);
         judged(x, 4, 1, 7, 3, 0);
+        judged(x, 0, 0, 0, 20, -1);
+    }
+
+    /** One told on the key day goes by the warranty, whichever of the two calls came first that day. */
+    private static void onTheKeyDay() {
+        SnagBook x = keyed();
+        x.fault(0, 0, 1, 10);
+        x.days(1);
+        x.fault(0, 0, 1, 10);
+        x.key(0, 99999);
+        x.fault(0, 0, 1, 10);
+        judged(x, 1, 2, 10, 0, -1);
+        judged(x, 2, 2, 10, 0, -1);
+        DUE.is("told on the key day, ahead of the call", x.take(1), -3);
+        DUE.is("told on the key day, behind the call", x.take(2), -3);
+        DUE.is("told a day ahead", x.take(0), 10);
+        Due.text(x, 0, 2, ">b;");
+        DUE.is("the warranty is for later key days", x.take(1), -3);
+        Due.text(x, 0, 1, ">b4;");
+        DUE.is("the builder pays by the warranty", x.take(1), 6);
+        DUE.is("the builder pays by the warranty", x.take(2), 6);
     }
 
     private static void payers() {

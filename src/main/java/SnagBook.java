@@ -893,7 +893,7 @@ public final class SnagBook {
     }
 
     private void decide(Fault f) {
-        if (f.aheadOfKey) {
+        if (f.isAheadOfKey()) {
             verdict.builderPaysAll(f.price());
             return;
         }
@@ -1228,7 +1228,6 @@ public final class SnagBook {
         /** Only a crack has one. */
         final Gauge gauge;
         int day;
-        boolean aheadOfKey;
         boolean listed;
         boolean isNew;
         int promiseDay = NONE;
@@ -1250,10 +1249,14 @@ public final class SnagBook {
         /** What is kept here is a matter of the telling: what comes behind it on the same day changes none of it. */
         void tell(int today, boolean toldBefore) {
             day = today;
-            aheadOfKey = !home.hasKey();
-            listed = aheadOfKey || today <= home.keyDay;
+            listed = !home.hasKey() || today <= home.keyDay;
             isNew = !listed && !toldBefore;
             history.add(OPEN, today, NONE);
+        }
+
+        /** By the days alone: one told on the key day is not, whichever of the two came first that day. */
+        boolean isAheadOfKey() {
+            return !home.hasKey() || day < home.keyDay;
         }
 
         boolean isWaiting() {
