@@ -27,13 +27,13 @@ public final class RefusalsTest {
             int call = random.nextInt(43);
             int[] a = arguments(random, call, x, i);
             String text = TEXTS[random.nextInt(TEXTS.length)];
-            int[] before = watch ? snapshot(x) : null;
+            int[] before = watch ? Probe.asked(x) : null;
             int answer = call == 42 ? Due.feed(x, text) : call(x, call, a);
             sum = sum * 31 + answer;
             boolean refused = (answer < 0 && answer >= -5 || answer == -2000000000) && call != 4 && call < 22;
             if (watch && refused) {
                 refusals++;
-                DUE.is("run " + seed + " call " + i + " of sort " + call + ", refused", Arrays.equals(before, snapshot(x)) ? 1 : 0, 1);
+                DUE.is("run " + seed + " call " + i + " of sort " + call + ", refused", Arrays.equals(before, Probe.asked(x)) ? 1 : 0, 1);
             }
         }
         return sum;
@@ -116,43 +116,5 @@ public final class RefusalsTest {
             case 40: return x.bounds(a[0], a[1], a[2]);
             default: return x.worst(a[0], a[1]) + x.weight(a[0], a[1]) + x.count(a[2]);
         }
-    }
-
-    private static int[] snapshot(SnagBook x) {
-        int[] all = new int[20000];
-        int n = 0;
-        for (int what = 0; what < 12; what++) {
-            all[n++] = x.count(what);
-        }
-        for (int home = 0; home < x.count(0); home++) {
-            for (int what = 0; what < 13; what++) {
-                all[n++] = x.ofHome(home, what);
-            }
-            all[n++] = x.inForce(0, home, x.count(3));
-            all[n++] = x.inForce(1, home, x.count(3));
-        }
-        for (int fault = 0; fault < x.count(2); fault++) {
-            for (int what = 0; what < 14; what++) {
-                all[n++] = x.ofFault(fault, what);
-            }
-            for (int what = 0; what < 4; what++) {
-                all[n++] = x.judge(fault, what);
-            }
-            all[n++] = x.state(fault, 9999);
-            all[n++] = x.damage(fault);
-            all[n++] = x.source(fault, 9999);
-            all[n++] = x.gauge(fault, 9999);
-            for (int i = 0; i < 11; i++) {
-                all[n++] = x.pace(fault, i);
-            }
-        }
-        for (int i = 0; i < 10; i++) {
-            for (int what = 0; what < 4; what++) {
-                all[n++] = x.ofCrew(i, what);
-            }
-            all[n++] = x.planned(i);
-            all[n++] = x.weight(i, 9999);
-        }
-        return all;
     }
 }
