@@ -120,7 +120,7 @@ public final class DiaryTest {
 
     private static void againstAllPlans() {
         Random random = new Random(7);
-        for (int run = 0; run < 400; run++) {
+        for (int run = 0; run < 3000; run++) {
             SnagBook x = new SnagBook();
             int today = random.nextInt(20);
             if (today > 0) {
@@ -129,21 +129,23 @@ public final class DiaryTest {
             int[] bits = new int[3];
             int[] men = new int[3];
             for (int i = 0; i < 3; i++) {
-                bits[i] = random.nextInt(128);
-                men[i] = random.nextInt(3);
+                bits[i] = random.nextInt(128) | random.nextInt(128);
+                men[i] = random.nextInt(4);
                 x.home(i, 0, 0);
                 x.in(i, bits[i]);
                 x.kind(i, 1, 0);
                 x.men(i, men[i]);
             }
-            int days = 1 + random.nextInt(6);
-            Jobs jobs = new Jobs(1 + random.nextInt(5), today, days, men);
+            int many = 1 + random.nextInt(7);
+            // Every plan is tried, so many jobs go with fewer days.
+            int days = 1 + random.nextInt(many > 5 ? 4 : many > 3 ? 7 : 14);
+            Jobs jobs = new Jobs(many, today, days, men);
             for (int i = 0; i < jobs.size; i++) {
                 int home = random.nextInt(3);
                 jobs.bits[i] = bits[home];
                 jobs.trade[i] = random.nextInt(3);
-                jobs.severity[i] = 1 + random.nextInt(3);
-                jobs.until[i] = today + random.nextInt(5);
+                jobs.severity[i] = 1 + random.nextInt(run % 2 == 0 ? 3 : 9);
+                jobs.until[i] = today + random.nextInt(days + 2);
                 x.fault(12 * home + i, jobs.trade[i], jobs.severity[i], 0);
                 x.promise(i, jobs.until[i]);
                 x.job(i);

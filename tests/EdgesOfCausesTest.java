@@ -263,6 +263,26 @@ public final class EdgesOfCausesTest {
         DUE.is("22: the BATCH is the lesser one", x.cause(0, 0, 9999), 20);
         DUE.is("23: CREW 3 is one HOME more", x.rivals(0, 0, 9999), 2);
         DUE.is("21: STREET 1 is below 9999, too", x.chance(0, 1, 0), 7143);
+        rivalByOneHome(0);
+        rivalByOneHome(3);
+    }
+
+    /** CREW 5 worked in all HOMES of batch 0 but this one. */
+    private static void rivalByOneHome(int other) {
+        SnagBook x = new SnagBook();
+        for (int i = 0; i < 8; i++) {
+            x.home(100 + i, 500, i < 4 ? 0 : 1);
+            x.crew(i, 0, i < 4 && i != other ? 5 : -1);
+        }
+        x.kind(0, 1, 0);
+        for (int i = 0; i < 4; i++) {
+            x.fault(12 * i, 0, 1, 0);
+        }
+        DUE.is("22: batch 0", x.cause(0, 0, 9999), 20);
+        DUE.is("23: CREW 5 is a RIVAL, without HOME " + other, x.rivals(0, 0, 9999), 1);
+        x.crew(other, 0, 5);
+        DUE.is("22: CREW 5 is the same set, and first", x.cause(0, 0, 9999), 15);
+        DUE.is("23: and no RIVAL, with HOME " + other, x.rivals(0, 0, 9999), 0);
     }
 
     /** A book with one crack, read on these DAYS (rising) with these WIDTHS by turns. */

@@ -190,6 +190,16 @@ public final class EdgesOfDiaryTest {
         }
         planned("30: each TRADE has its own", x, 2, 1, 0, NOT, 0);
         x = book();
+        x.men(3, 0);
+        job(x, 0, 3, 8, 9);
+        planned("30: one JOB alone, no MEN for it", x, 14, 8, NOT);
+        x.job(0);
+        job(x, 0, 4, 1, 9);
+        planned("30: no MEN for the first", x, 14, 8, NOT, 0);
+        x.job(1);
+        x.job(0);
+        planned("30: no MEN for the last", x, 14, 8, 0, NOT);
+        x = book();
         x.men(9, 9);
         for (int i = 0; i < 7; i++) {
             job(x, 0, 9, 9, 0);
